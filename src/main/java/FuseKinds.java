@@ -1806,7 +1806,7 @@ public final class FuseKinds {
         }
     }
 
-    /** S and T by one CHARACTER, their laws, and ALL TURNS. */
+    /** S and T by one CHARACTER, their laws, and ALL TURNS; allSquares is D, turnedSquares P. */
     private static final class Turns {
         private final int[] amounts = new int[MOST_KINDS];
         private final int[] starts = new int[MOST_KINDS];
@@ -1815,8 +1815,8 @@ public final class FuseKinds {
         private Table table;
         private Numbers numbers;
         private int kinds;
-        private int big;
-        private int sum;
+        private int allSquares;
+        private int turnedSquares;
         private final int[] d = new int[MOST_KINDS];
         private final int[] t = new int[MOST_KINDS];
         private final int[] trial = new int[MOST_KINDS];
@@ -1846,7 +1846,7 @@ public final class FuseKinds {
                 d[i] = characters.at(character, i);
                 squares += d[i] * d[i];
             }
-            big = numbers.reduce(squares);
+            allSquares = numbers.reduce(squares);
         }
 
         /** S and P for these TURNS. */
@@ -1857,7 +1857,7 @@ public final class FuseKinds {
                 weight[k] = numbers.reduce(t[k] * d[k]);
                 squares += weight[k] * d[k];
             }
-            sum = numbers.reduce(squares);
+            turnedSquares = numbers.reduce(squares);
             for (int i = 0; i < kinds; i++) {
                 for (int j = 0; j < kinds; j++) {
                     int fused = 0;
@@ -1886,7 +1886,7 @@ public final class FuseKinds {
         private boolean twiceIsDuals() {
             for (int i = 0; i < kinds; i++) {
                 for (int j = 0; j < kinds; j++) {
-                    if (twice[5 * i + j] != (table.duals[i] == j ? big : 0)) {
+                    if (twice[5 * i + j] != (table.duals[i] == j ? allSquares : 0)) {
                         return false;
                     }
                 }
@@ -1904,7 +1904,7 @@ public final class FuseKinds {
             numbers.multiply(power, st, kinds, thrice);
             for (int i = 0; i < kinds; i++) {
                 for (int j = 0; j < kinds; j++) {
-                    if (thrice[5 * i + j] != numbers.reduce(sum * twice[5 * i + j])) {
+                    if (thrice[5 * i + j] != numbers.reduce(turnedSquares * twice[5 * i + j])) {
                         return false;
                     }
                 }
@@ -1921,7 +1921,7 @@ public final class FuseKinds {
             for (int i = 0; i < kinds; i++) {
                 for (int j = 0; j < kinds; j++) {
                     for (int k = 0; k < kinds; k++) {
-                        if (wonBack(i, j, table.duals[k]) != numbers.reduce(big * table.at(i, j, k))) {
+                        if (wonBack(i, j, table.duals[k]) != numbers.reduce(allSquares * table.at(i, j, k))) {
                             return false;
                         }
                     }
@@ -1949,11 +1949,7 @@ public final class FuseKinds {
             Arrays.fill(trial, 1);
             int rows = canHold() ? rowsAheadOfLast() : 0;
             for (int row = 0; row < rows; row++) {
-                if (kinds == 1) {
-                    addIfAllHold();
-                } else {
-                    tryLast();
-                }
+                tryLast();
                 goOn();
             }
             amounts[character] = foundInAll - starts[character];
@@ -1966,7 +1962,7 @@ public final class FuseKinds {
                     return false;
                 }
             }
-            return big != 0;
+            return allSquares != 0;
         }
 
         private int rowsAheadOfLast() {
@@ -1989,11 +1985,15 @@ public final class FuseKinds {
 
         /**
          * (S by S)(0, 1) must be 0. By the last turn x it is a sum of what has no x, what is by x and what x
-         * divides, so few x are left to be looked at as a whole.
+         * divides, so few x are left to be looked at as a whole. A TABLE of one KIND has one row, which holds.
          */
         private void tryLast() {
             int last = kinds - 1;
-            trial[last] = 1;
+            if (last == 0) {
+                fill(trial);
+                addFound();
+                return;
+            }
             int without = table.at(last, 1, last) * d[last] * d[last];
             int by = 0;
             int divided = 0;
@@ -2011,16 +2011,15 @@ public final class FuseKinds {
             for (int x = 1; x < numbers.p; x++) {
                 if (numbers.reduce(without + by * x + divided * numbers.inverse[x]) == 0) {
                     trial[last] = x;
-                    addIfAllHold();
+                    fill(trial);
+                    if (allHold()) {
+                        addFound();
+                    }
                 }
             }
         }
 
-        private void addIfAllHold() {
-            fill(trial);
-            if (!allHold()) {
-                return;
-            }
+        private void addFound() {
             int code = 0;
             for (int k = kinds - 1; k > 0; k--) {
                 code = 32 * code + t[k];
