@@ -1523,7 +1523,8 @@ public final class FuseKinds {
                         if (table.at(b, c, g) == 1 && table.at(a, g, d) == 1) {
                             shapes++;
                             int left = r[swapPlace(a, c, e)] * f[place(a, c, b, d, e, g)] * r[swapPlace(b, c, g)];
-                            int right = hexagonSum(place(c, a, b, d, e, 0), swapPlace(0, c, d), place(a, b, c, d, 0, g));
+                            int before = place(c, a, b, d, e, 0);
+                            int right = hexagonSum(before, swapPlace(0, c, d), place(a, b, c, d, 0, g));
                             brokenShapes += numbers.reduce(left) == numbers.reduce(right) ? 0 : 1;
                         }
                     }
