@@ -57,13 +57,19 @@ final class Due {
     static int feed(FuseKinds x, String text) {
         int has = x.count(3);
         for (int at = 0; at < text.length(); at += 20) {
-            int[] five = new int[5];
-            for (int i = 0; i < 20; i++) {
-                five[i / 4] = five[i / 4] << 8 | (at + i < text.length() ? text.charAt(at + i) : ' ');
-            }
+            int[] five = fiveNumbers(text, at);
             has = x.feed(five[0], five[1], five[2], five[3], five[4]);
         }
         return has;
+    }
+
+    /** Twenty bytes of a text from there on, with blanks behind its end. */
+    static int[] fiveNumbers(String text, int at) {
+        int[] five = new int[5];
+        for (int i = 0; i < 20; i++) {
+            five[i / 4] = five[i / 4] << 8 | (at + i < text.length() ? text.charAt(at + i) : ' ');
+        }
+        return five;
     }
 
     static FuseKinds of(String text) {

@@ -1,5 +1,3 @@
-import java.lang.reflect.InvocationTargetException;
-import java.lang.reflect.Method;
 import java.util.ArrayList;
 import java.util.Arrays;
 import java.util.HashMap;
@@ -17,8 +15,8 @@ public final class RandomRunsTest {
     private static final String[] PIECES = {"rank", "none", "rnk", "nonee", "0", "1", "2", "3", "4", "5", "6", "01", "002",
         "0001", "1234", "=", "+", ";", " ", "\n", "\t", "-", "=", ";", "A", "\u00e9", "\u0000"};
 
-    private final Map<String, Method> ours = methods(FuseKinds.class);
-    private final Map<String, Method> plain = methods(PlainKinds.class);
+    private final Face ours = new Face(FuseKinds.class);
+    private final Face plain = new Face(PlainKinds.class);
     private final List<String> story = new ArrayList<>();
     private final Random random;
     private FuseKinds x;
@@ -31,17 +29,7 @@ public final class RandomRunsTest {
         random = new Random(seed);
     }
 
-    private static Map<String, Method> methods(Class<?> of) {
-        Map<String, Method> found = new HashMap<>();
-        for (Method method : of.getDeclaredMethods()) {
-            if (java.lang.reflect.Modifier.isPublic(method.getModifiers())) {
-                found.put(method.getName(), method);
-            }
-        }
-        return found;
-    }
-
-    public static void main(String[] args) throws Exception {
+    public static void main(String[] args) {
         int runs = args.length > 0 ? Integer.parseInt(args[0]) : RUNS;
         RandomRunsTest test = new RandomRunsTest(args.length > 1 ? Long.parseLong(args[1]) : 20261118L);
         for (int run = 0; run < runs && test.wrong < 5; run++) {
@@ -55,19 +43,9 @@ public final class RandomRunsTest {
         System.exit(test.wrong == 0 ? 0 : 1);
     }
 
-    private static String answer(Method method, Object on, Object[] args) throws Exception {
-        try {
-            Object got = method.invoke(on, args);
-            return got == null ? "void" : got.toString();
-        } catch (InvocationTargetException thrown) {
-            return "throws." + thrown.getCause().getClass().getSimpleName();
-        }
-    }
-
-    private String call(String name, int... numbers) throws Exception {
-        Object[] args = Arrays.stream(numbers).boxed().toArray();
-        String got = answer(ours.get(name), x, args);
-        String due = answer(plain.get(name), y, args);
+    private String call(String name, int... numbers) {
+        String got = ours.answer(x, name, numbers);
+        String due = plain.answer(y, name, numbers);
         calls++;
         story.add(name + Arrays.toString(numbers) + " -> " + got);
         String kind = due.startsWith("throws") ? due : due.equals("-1") || due.equals("false") ? due : "answer";
@@ -80,7 +58,7 @@ public final class RandomRunsTest {
         return due;
     }
 
-    private void run(int style) throws Exception {
+    private void run(int style) {
         x = new FuseKinds();
         y = new PlainKinds();
         story.clear();
@@ -105,7 +83,7 @@ public final class RandomRunsTest {
         return WILD[random.nextInt(WILD.length)];
     }
 
-    private int kind() throws Exception {
+    private int kind() {
         int r = y.count(0);
         if (random.nextInt(300) == 0) {
             return wild();
@@ -113,7 +91,7 @@ public final class RandomRunsTest {
         return random.nextInt(60) == 0 ? random.nextInt(9) - 2 : random.nextInt(r);
     }
 
-    private int number() throws Exception {
+    private int number() {
         int p = y.count(2);
         if (random.nextInt(100) == 0) {
             return wild();
@@ -121,7 +99,7 @@ public final class RandomRunsTest {
         return random.nextInt(15) == 0 ? random.nextInt(50) - 10 : random.nextInt(p);
     }
 
-    private void feedText(String text) throws Exception {
+    private void feedText(String text) {
         StringBuilder bytes = new StringBuilder(text);
         while (bytes.length() % 20 != 0) {
             bytes.append((char) random.nextInt(256));
@@ -148,7 +126,7 @@ public final class RandomRunsTest {
         return text.append(';').append(random.nextInt(4) == 0 ? " \n" : "").toString();
     }
 
-    private void tellText() throws Exception {
+    private void tellText() {
         int r = 1 + random.nextInt(5);
         StringBuilder text = new StringBuilder("rank ").append(r).append(';');
         int lines = r == 1 ? 0 : random.nextInt(1 + r * (r - 1) / 2);
@@ -174,7 +152,7 @@ public final class RandomRunsTest {
     }
 
     /** A free TABLE of few KINDS, since most that is asked needs one. */
-    private void tellFree() throws Exception {
+    private void tellFree() {
         int r = 2 + random.nextInt(2);
         StringBuilder text = new StringBuilder("rank ").append(r).append(';');
         for (int i = 1; i < r; i++) {
@@ -196,7 +174,7 @@ public final class RandomRunsTest {
         call("table", text.length());
     }
 
-    private void newTable(int style) throws Exception {
+    private void newTable(int style) {
         int pick = random.nextInt(10);
         if (pick < 3) {
             tellText();
@@ -219,7 +197,7 @@ public final class RandomRunsTest {
         }
     }
 
-    private void askTable() throws Exception {
+    private void askTable() {
         switch (random.nextInt(7)) {
             case 0:
                 call("count", random.nextInt(14) - 2);
@@ -245,7 +223,7 @@ public final class RandomRunsTest {
         }
     }
 
-    private void tellIt() throws Exception {
+    private void tellIt() {
         int pick = random.nextInt(10);
         if (pick < 4) {
             tellTree();
@@ -263,7 +241,7 @@ public final class RandomRunsTest {
     }
 
     /** Mostly one that is there. */
-    private void tellTree() throws Exception {
+    private void tellTree() {
         int[] seven = new int[7];
         for (int trial = 0; trial < 40; trial++) {
             for (int i = 0; i < 6; i++) {
@@ -280,7 +258,7 @@ public final class RandomRunsTest {
         call("tell", seven);
     }
 
-    private void askTold() throws Exception {
+    private void askTold() {
         switch (random.nextInt(8)) {
             case 0:
                 call("told", random.nextInt(12) == 0 ? random.nextInt(6) - 2 : random.nextInt(3), kind(), kind(), kind(),
@@ -311,18 +289,17 @@ public final class RandomRunsTest {
     }
 
     /** Any call with any numbers. */
-    private void anything() throws Exception {
-        List<String> names = new ArrayList<>(ours.keySet());
-        names.sort(null);
+    private void anything() {
+        List<String> names = new ArrayList<>(ours.methods().keySet());
         String name = names.get(random.nextInt(names.size()));
-        int[] numbers = new int[ours.get(name).getParameterCount()];
+        int[] numbers = new int[ours.methods().get(name).getParameterCount()];
         for (int i = 0; i < numbers.length; i++) {
             numbers[i] = random.nextInt(3) == 0 ? wild() : random.nextInt(6) - 2;
         }
         call(name, numbers);
     }
 
-    private void rare(int style) throws Exception {
+    private void rare(int style) {
         switch (random.nextInt(6)) {
             case 4:
             case 5:
@@ -347,7 +324,7 @@ public final class RandomRunsTest {
     }
 
     /** Tells all F and R, so that some BRAIDS can be. */
-    private void fixGood() throws Exception {
+    private void fixGood() {
         int r = y.count(0);
         if (r > 3 || y.count(1) == 0) {
             return;
