@@ -959,7 +959,7 @@ public final class FuseKinds {
         private static final int[] RENAMINGS = {1, 2, 3, 1, 3, 2, 2, 1, 3, 2, 3, 1, 3, 1, 2, 3, 2, 1};
 
         private int rank;
-        private int most;
+        private int most = 1;
         private int amount;
         private int ownDuals;
         private int[] codes = new int[64];
@@ -1355,7 +1355,7 @@ public final class FuseKinds {
 
     /** F and R of a TABLE of at most three KINDS, with all that are 1 by themselves put in. */
     private static final class Trees {
-        private final Table table;
+        private final Table table = new Table();
         private final int[] f = new int[729];
         private final int[] r = new int[27];
         private final int[] nine = new int[9];
@@ -1363,10 +1363,6 @@ public final class FuseKinds {
         private final int[] firstBroken = new int[9];
         private int shapes;
         private int brokenShapes;
-
-        Trees(Table of) {
-            table = of;
-        }
 
         void copy(Trees other) {
             System.arraycopy(other.f, 0, f, 0, f.length);
@@ -1548,8 +1544,8 @@ public final class FuseKinds {
         private static final int LETTERS = 761;
         private static final int MOST_LETTERS = 12;
 
-        private final Table table;
         private final Trees trees;
+        private final Table table;
         private final int[] turns = new int[MOST_KINDS];
         private final int[] word = new int[MOST_LETTERS];
         private int letters;
@@ -1558,8 +1554,8 @@ public final class FuseKinds {
         private int refusedTold;
 
         State() {
-            table = new Table();
-            trees = new Trees(table);
+            trees = new Trees();
+            table = trees.table;
             p = 7;
             forgetTold();
         }
@@ -1669,8 +1665,8 @@ public final class FuseKinds {
         private final int[] first = new int[MOST_UNKNOWNS];
         private final int[] unknown = new int[MOST_UNKNOWNS];
         private final int[] row = new int[MOST_UNKNOWNS];
-        private final Table table = new Table();
-        private final Trees trees = new Trees(table);
+        private final Trees trees = new Trees();
+        private final Table table = trees.table;
         private final int[] pentagons = new int[5 * MOST_PENTAGONS];
         private final int[] last = new int[MOST_PENTAGONS];
         private int pentagonAmount;

@@ -22,6 +22,8 @@ public final class RulesTest {
             "\\bpackage\\b", "\\bstatic \\{", "\\btoString\\b", "\\bhashCode\\b", "static (?!final)\\w+ \\w+ ?[=;]"}) {
             due.same("never " + never, Pattern.compile(never).matcher(code).find(), false);
         }
+        due.same("constructors are handed nothing", Pattern.compile("new (?!\\w+Exception)\\w+\\([^)]").matcher(code)
+            .find(), false);
         due.same("imports", found(code, "import ([\\w.]+);"), Set.of("java.util.Arrays",
             "java.util.NoSuchElementException"));
         due.same("thrown", found(code, "throw new (\\w+)\\("), Set.of("IllegalArgumentException",
