@@ -9,6 +9,7 @@ public final class FieldTest {
         swaps();
         twists();
         toldOnes();
+        eachInItsPlace();
         checks();
         brokenOnes();
         solutions();
@@ -185,6 +186,50 @@ public final class FieldTest {
         x.make(0, 4, 0);
         DUE.noSuch("F, r 4", () -> x.told(0, 0, 0, 0, 0, 0, 0));
         DUE.noSuch("R, r 4", () -> x.told(1, 0, 0, 0, 0, 0, 0));
+    }
+
+    /** Promise 21, all F and R: none stands where another one does, or where none is there. */
+    private static void eachInItsPlace() {
+        for (int a = 0; a < 3; a++) {
+            FuseKinds x = Due.of("rank 3;1 1=0+1+2;1 2=0+1+2;2 2=0+1+2;");
+            x.field(31);
+            int tells = 0;
+            for (int code = 0; code < 729; code++) {
+                int[] k = kindsOf(code);
+                boolean isNew = k[0] * k[1] * k[2] > 0 && isThere(k);
+                if (isNew && x.tell(k[0], k[1], k[2], k[3], k[4], k[5], 2 + code % 29)) {
+                    tells++;
+                }
+                if (code < 27 && k[3] * k[4] > 0 && x.swap(k[3], k[4], k[5], 2 + code)) {
+                    tells++;
+                }
+            }
+            DUE.same("told, of F and of R", tells, 132 + 12);
+            for (int code = 243 * a; code < 243 * a + 243; code++) {
+                int[] k = kindsOf(code);
+                int due = !isThere(k) ? 0 : k[0] * k[1] * k[2] == 0 ? 1 : 2 + code % 29;
+                DUE.same("F at " + code, x.told(0, k[0], k[1], k[2], k[3], k[4], k[5]), due);
+            }
+            for (int code = 0; code < 27; code++) {
+                int[] k = kindsOf(code);
+                int due = !fuses(k[3], k[4], k[5]) ? 0 : k[3] * k[4] == 0 ? 1 : 2 + code;
+                DUE.same("R at " + code, x.told(1, k[3], k[4], k[5], 0, 0, 0), due);
+            }
+        }
+    }
+
+    private static int[] kindsOf(int code) {
+        return new int[] {code / 243, code / 81 % 3, code / 27 % 3, code / 9 % 3, code / 3 % 3, code % 3};
+    }
+
+    /** In the TABLE in which all but KIND 0 fuse to all. */
+    private static boolean fuses(int i, int j, int k) {
+        return i * j > 0 || i + j == k;
+    }
+
+    private static boolean isThere(int[] k) {
+        return fuses(k[0], k[1], k[4]) && fuses(k[4], k[2], k[3]) && fuses(k[1], k[2], k[5])
+            && fuses(k[0], k[5], k[3]);
     }
 
     /** Promise 22. */
